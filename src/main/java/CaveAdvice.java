@@ -163,8 +163,11 @@ public final class CaveAdvice {
         int answer = refusalOfCall(cavern, passage);
         if (answer == 0) {
             history.mark(cave.now);
-            answer = makeCall(0, text.length);
-            history.settle(answer >= 0);
+            numbers.begin();
+            numbers.put(echo.minutes);
+            putLetters(text.length);
+            answer = wearByEcho();
+            history.settle(true);
         }
         text.length = 0;
         return answer;
@@ -200,11 +203,9 @@ public final class CaveAdvice {
         history.mark(cave.now);
         int done = 0;
         boolean refused = false;
-        int p = 0;
-        while (p < text.length && !refused) {
+        for (int p = 0; p < text.length && !refused; p += Math.max(1, text.signsOfAct(p))) {
             refused = doAct(p) < 0;
             done += refused ? 0 : 1;
-            p += text.signsOfAct(p);
         }
         text.length = 0;
         history.settle(done > 0);
@@ -231,19 +232,16 @@ public final class CaveAdvice {
         return fault == FINE ? 0 : -1 - fault;
     }
 
-    /** The echo has been followed already; its letters stand in the text. */
-    private int makeCall(int from, int letters) {
-        numbers.begin();
-        numbers.put(echo.minutes);
-        putLetters(from, letters);
-        cave.wearOut(echo);
-        return echo.end;
+    /** What comes out of the first letters of the text by the echo that was followed last. */
+    private void putLetters(int letters) {
+        for (int place = 0; place < letters; place++) {
+            numbers.put(echo.comesOut(theRule, text.letter(place), place));
+        }
     }
 
-    private void putLetters(int from, int letters) {
-        for (int place = 0; place < letters; place++) {
-            numbers.put(echo.comesOut(theRule, text.letter(from + place), place));
-        }
+    private int wearByEcho() {
+        cave.wearOut(echo);
+        return echo.end;
     }
 
     private int passHours(int n) {
@@ -285,10 +283,8 @@ public final class CaveAdvice {
             case 'm':
                 return digPassage(text.digit(p + 1), text.digit(p + 2), text.digit(p + 3));
             default:
-                if (!echo.goes(text.digit(p + 1), text.digit(p + 2))) {
-                    return NO_ECHO;
-                }
-                return makeCall(p + 3, text.lettersFrom(p + 3));
+                // The letters that come out are not told by a season, so they are not worked out.
+                return echo.goes(text.digit(p + 1), text.digit(p + 2)) ? wearByEcho() : NO_ECHO;
         }
     }
 
@@ -314,7 +310,7 @@ public final class CaveAdvice {
             return refusal;
         }
         numbers.begin();
-        putLetters(0, letters);
+        putLetters(letters);
         int same = 0;
         for (int place = 0; place < letters; place++) {
             same += numbers.at(place) == text.letter(place) ? 1 : 0;
@@ -354,10 +350,7 @@ public final class CaveAdvice {
         for (int c = 0; c < CAVERNS; c++) {
             for (int q = 0; q < cave.size; q++) {
                 if (echo.goes(c, q) && turnsIntoOther(letters)) {
-                    if (pairs == 0) {
-                        numbers.put(c);
-                        numbers.put(q);
-                    }
+                    putIfFirst(c, q);
                     pairs++;
                 }
             }
@@ -448,6 +441,14 @@ public final class CaveAdvice {
         numbers.put(echoes);
         numbers.put(back);
         return from;
+    }
+
+    /** Pairs come in their order, so that the first one is the least. */
+    private void putIfFirst(int one, int other) {
+        if (numbers.size == 0) {
+            numbers.put(one);
+            numbers.put(other);
+        }
     }
 
     private int timesAmongImages(int wanted) {
@@ -801,10 +802,7 @@ public final class CaveAdvice {
         for (int x = 0; x < ASKED_NUMBERS; x++) {
             for (int y = 0; y < ASKED_NUMBERS; y++) {
                 if (isBestAnswer(x, y, v) && isBestAnswer(y, x, v)) {
-                    if (pairs == 0) {
-                        numbers.put(x);
-                        numbers.put(y);
-                    }
+                    putIfFirst(x, y);
                     pairs++;
                 }
             }
