@@ -814,6 +814,8 @@ public final class CaveAdvice {
         if (n < 1 || n > MOST_YEARS) {
             return NONE;
         }
+        // It is a question: the years are lived and then taken back.
+        history.mark(cave.now);
         drawn = seed;
         int echoes = 0;
         for (int i = 0; i < n; i++) {
@@ -822,7 +824,9 @@ public final class CaveAdvice {
         numbers.begin();
         numbers.put(Integer.bitCount(cave.now.open));
         numbers.put(echoes);
-        return cave.wearOfAll();
+        int wear = cave.wearOfAll();
+        cave.now.take(history.marked());
+        return wear;
     }
 
     private int keptBy(Rule law) {
@@ -1202,7 +1206,7 @@ public final class CaveAdvice {
     /** What can be undone, and what is kept under numbers. */
     private static final class History {
         static final int MOST_UNDONE = 15;
-        // One slot more than can be undone: the state ahead of an act that may yet be refused.
+        // One slot more than can be undone: the state ahead of what may yet be taken back.
         static final int SLOTS = 16;
         static final int NUMBERS = 3;
 
@@ -1227,7 +1231,11 @@ public final class CaveAdvice {
         }
 
         void mark(State now) {
-            slots[(first + size) % SLOTS].take(now);
+            marked().take(now);
+        }
+
+        State marked() {
+            return slots[(first + size) % SLOTS];
         }
 
         /** What was marked last can be undone, if the act was done. */
@@ -1244,7 +1252,7 @@ public final class CaveAdvice {
 
         State latest() {
             size = Math.max(0, size - 1);
-            return slots[(first + size) % SLOTS];
+            return marked();
         }
 
         boolean store(int i, State now) {

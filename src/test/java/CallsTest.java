@@ -71,18 +71,20 @@ public final class CallsTest {
         }
         DUE.is("9: WEAR 9 at most", x.passage(0, 4), 9);
         DUE.is("9: CALLED goes on", x.count(3), 12);
-        CaveAdvice y = Due.cave("0110;2310;4510;6710;0210;4610;1310;5710;0410;1510;2610;3710");
-        int reached = 0;
-        for (int i = 0; i < 480 && reached < 3; i++) {
-            y.years(i, 60);
-            reached += y.count(3) == 999 ? 1 : 0;
+        mostCalled();
+    }
+
+    /** 999 CALLS take more than 512 calls of the face; the bound is kept all the same. */
+    private static void mostCalled() {
+        CaveAdvice x = Due.cave("0110");
+        for (int i = 0; i < 66; i++) {
+            Due.text(x, "s00as00as00as00as00as00as00as00as00as00as00as00as00as00as00a").season();
         }
-        DUE.is("44: CALLED 999 at most", reached, 3);
-        if (y.passage(0, 5) == 0) {
-            y.falls(0);
-        }
-        DUE.holds("9: another call", Due.text(y, "a").calls(0, 0) >= 0);
-        DUE.is("9: CALLED 999 at most", y.count(3), 999);
+        DUE.is("13: 66 times 15 CALLS", x.count(3), 990);
+        DUE.is("13: as many as are left", Due.text(x, "s00as00as00as00as00as00as00as00as00as00a").season(), 10);
+        DUE.is("9: CALLED 999 at most", x.count(3), 999);
+        DUE.is("9: another call", Due.text(x, "a").calls(0, 0), 1);
+        DUE.is("9: CALLED stays 999", x.count(3), 999);
     }
 
     private static void hours() {

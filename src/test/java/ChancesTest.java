@@ -10,6 +10,7 @@ public final class ChancesTest {
         rests();
         years();
         yearsDrawn();
+        yearsChangeNothing();
         DUE.close();
     }
 
@@ -147,14 +148,8 @@ public final class ChancesTest {
         DUE.row("44: refused", x);
         DUE.is("44: no PASSAGES", x.years(7, 60), 0);
         DUE.row("44: no PASSAGES", x, 0, 0);
-        int hours = 0;
-        int r = 7;
-        for (int i = 0; i < 60; i++) {
-            r = r * 1103515245 + 12345;
-            hours += (r >>> 16) % 4 == 0 ? 1 : 0;
-        }
-        DUE.is("44: no PASSAGES, no DRAWS but of 4", x.count(2), hours);
-        DUE.is("44: can't be undone", x.count(8), 0);
+        DUE.is("44: HOUR stays", x.count(2), 0);
+        DUE.is("44: nothing to undo", x.count(8), 0);
     }
 
     /** Each seed with what it draws, told anew by hand on a second cave. */
@@ -180,14 +175,57 @@ public final class ChancesTest {
             }
             DUE.is("44: WEAR of all", wear, y.count(4));
             DUE.row("44: seed " + seed, x, y.count(1), echoes);
-            for (int what = 0; what <= 5; what++) {
-                DUE.is("44: count(" + what + ")", x.count(what), y.count(what));
-            }
-            DUE.is("44: as ahead of the hour", x.undo(), 0);
-            DUE.is("44: HOUR 0", x.count(2), 0);
-            DUE.is("44: all OPEN", x.count(1), 4);
-            DUE.is("44: no WEAR", x.count(4), 0);
         }
+    }
+
+    /** Questions change nothing: each seed's years leave the cave, what can be undone and what is kept. */
+    private static void yearsChangeNothing() {
+        for (int seed = -20; seed < 20; seed++) {
+            CaveAdvice x = worn();
+            CaveAdvice y = worn();
+            Due.text(x, "0110");
+            Due.text(y, "0110");
+            x.years(seed * 77777777, 60);
+            DUE.holds("44: all stays", alike(x, y));
+            for (int left = 14; left >= 11; left--) {
+                x.years(seed, 1 + left);
+                DUE.is("44: can be undone as ahead of it", x.undo(), left);
+                y.undo();
+                DUE.holds("44: undone alike", alike(x, y));
+            }
+            x.years(seed, 1);
+            DUE.holds("44: kept alike", x.again(1) && y.again(1) && alike(x, y));
+            DUE.is("44: the same seed, the same answer", x.years(seed, 60), y.years(seed, 60));
+            DUE.is("44: twice the same answer", x.years(seed, 60), y.years(seed, 60));
+        }
+    }
+
+    /** More acts than can be undone, so that each slot of what is kept has been used. */
+    private static CaveAdvice worn() {
+        CaveAdvice x = Due.cave("0110;1220;2030;2340");
+        x.sheet(2, 4, 3, 2);
+        x.falls(3);
+        x.keep(1);
+        for (int i = 0; i < 20; i++) {
+            Due.text(x, "a").calls(i % 3, i % 2);
+            x.hours(i % 2);
+            x.digs(i % 4, 1 + i % 9, i % 10);
+        }
+        x.falls(3);
+        return x;
+    }
+
+    private static boolean alike(CaveAdvice x, CaveAdvice y) {
+        boolean same = true;
+        for (int what = 0; what <= 10; what++) {
+            same &= what == 9 || x.count(what) == y.count(what);
+        }
+        for (int passage = 0; passage < x.count(0); passage++) {
+            for (int what = 0; what <= 5; what++) {
+                same &= x.passage(passage, what) == y.passage(passage, what);
+            }
+        }
+        return same;
     }
 
     private static int draw(int[] r, int n) {

@@ -1240,6 +1240,7 @@ final class PlainCave {
         if (n < 1 || n > 60) {
             return -1;
         }
+        Memory ahead = copyOf(now);
         drawn = seed;
         int echoes = 0;
         for (int i = 0; i < n; i++) {
@@ -1258,7 +1259,9 @@ final class PlainCave {
             }
         }
         tell(open(), echoes);
-        return wear();
+        int wear = wear();
+        now = ahead;
+        return wear;
     }
 
     // ---- kept
