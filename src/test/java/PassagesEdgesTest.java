@@ -19,6 +19,7 @@ public final class PassagesEdgesTest {
         noRoom();
         moreThanFiftyNine();
         nothingOfItComes();
+        passagesLeaveTheRest();
         emptyRule();
         ruleEndsTooEarly();
         moreThanForty();
@@ -263,6 +264,27 @@ public final class PassagesEdgesTest {
         DUE.is("4: four stay", x.count(0), 4);
         DUE.is("4: no PASSAGE of 4", x.cavern(4, 0), 0);
         DUE.holds("4: it changes nothing", Edges.lookThrough(Due.text(x, "hag")).equals(Edges.lookThrough(Edges.worn())));
+    }
+
+    /** New PASSAGES leave those that are there, HOUR, CALLED, THE RULE, what was told and heard. */
+    private static void passagesLeaveTheRest() {
+        CaveAdvice x = Edges.worn();
+        CaveAdvice y = Edges.worn();
+        DUE.is("4: one more", Due.text(x, "6798").passages(), 1);
+        for (int what : new int[] {2, 3, 4, 6, 7}) {
+            DUE.is("4: count(" + what + ") stays", x.count(what), y.count(what));
+        }
+        DUE.is("4: one more is OPEN", x.count(1), y.count(1) + 1);
+        DUE.is("4: its DELAY comes to the others", x.count(5), y.count(5) + 9);
+        for (int q = 0; q < 4; q++) {
+            for (int what = 0; what <= 5; what++) {
+                DUE.is("4: PASSAGE " + q + " stays", x.passage(q, what), y.passage(q, what));
+            }
+        }
+        DUE.is("4: THE RULE stays", Due.text(x, "hag").hears(0, 0), Due.text(y, "hag").hears(0, 0));
+        DUE.holds("4: THE RULE stays", Edges.rowOf(x).equals(Edges.rowOf(y)));
+        DUE.is("4: what was heard stays", x.laws(), y.laws());
+        DUE.is("4: what was told stays", x.fits(), y.fits() | 1 << 4);
     }
 
     // 5: "(an empty one: none): 0"

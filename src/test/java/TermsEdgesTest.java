@@ -320,6 +320,13 @@ public final class TermsEdgesTest {
             Due.text(x, "d").hears(0, 0);
             DUE.row("n at HOUR " + n, x, n % 7);
         }
+        CaveAdvice late = Due.withRule(Due.cave("0110"), "n");
+        for (int i = 1; i <= 60; i++) {
+            late.hours(60);
+            DUE.is("HOUR has no end", late.count(2), 60 * i);
+            Due.text(late, "d").hears(0, 0);
+            DUE.is("n at HOUR " + 60 * i, late.row(0), 60 * i % 7);
+        }
     }
 
     // "e 1 if it goes from OTHER to ONE, else 0"
@@ -343,6 +350,8 @@ public final class TermsEdgesTest {
         becomes(s, "-(512*512*512*16)<0", 1);
         becomes(s, "512*512*512*16/-1<0", 1);
         becomes(s, "512*512*512*16*2", 0);
+        becomes(s, "512*512*512*16-1+1<0", 1);
+        becomes("the - ahead first, as ints", "-(512*512*512*16)/2<0", 1);
         becomes(s, "512*512*512*16-1", -1);
         becomes(s, "512*512*512*16/7", Integer.MIN_VALUE / 7);
     }
